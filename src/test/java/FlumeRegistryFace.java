@@ -1,0 +1,159 @@
+import java.io.IOException;
+import java.lang.reflect.Constructor;
+import java.lang.reflect.Field;
+import java.lang.reflect.Method;
+import java.lang.reflect.Modifier;
+import java.nio.file.Files;
+import java.nio.file.Path;
+import java.util.Set;
+import java.util.TreeSet;
+import java.util.regex.Matcher;
+import java.util.regex.Pattern;
+
+/** The public face as the document writes it, and the rules of the language that can be seen in the source. */
+public final class FlumeRegistryFace {
+    private static final String[] FACE = {
+        "FlumeRegistry()",
+        "int type(char) IllegalArgumentException IllegalStateException",
+        "int wipe()",
+        "int fault(boolean)",
+        "int publish(int) IndexOutOfBoundsException IllegalArgumentException IllegalStateException",
+        "int retire(int) IndexOutOfBoundsException IllegalStateException",
+        "int latest(int) IndexOutOfBoundsException",
+        "int pin(int,int) IndexOutOfBoundsException",
+        "int rain(int,int,int) IndexOutOfBoundsException IllegalArgumentException",
+        "int out(int,int) IndexOutOfBoundsException IllegalArgumentException",
+        "int outAnew(int,int) IndexOutOfBoundsException IllegalArgumentException",
+        "int run(int,int) IndexOutOfBoundsException IllegalArgumentException IllegalStateException",
+        "int why(int) IndexOutOfBoundsException",
+        "int peak(int) IndexOutOfBoundsException",
+        "int peakHour(int) IndexOutOfBoundsException",
+        "int peakAnew(int) IndexOutOfBoundsException",
+        "void build(int,int,int) IndexOutOfBoundsException IllegalArgumentException IllegalStateException",
+        "void rule(int) IndexOutOfBoundsException IllegalArgumentException IllegalStateException",
+        "void goBy(int,int) IndexOutOfBoundsException IllegalStateException",
+        "int level(int) IndexOutOfBoundsException",
+        "int below(int,int) IndexOutOfBoundsException IllegalArgumentException",
+        "void valley(int,int,int,int) IndexOutOfBoundsException IllegalArgumentException IllegalStateException",
+        "int sound(int,int) IndexOutOfBoundsException IllegalStateException",
+        "int siren(int) IndexOutOfBoundsException",
+        "int walkers(int) IndexOutOfBoundsException",
+        "int trust(int) IndexOutOfBoundsException",
+        "int saved(int) IndexOutOfBoundsException",
+        "int alarm()",
+        "int pass(int) IllegalArgumentException IllegalStateException",
+        "static int NONE", "static int STANDS", "static int MENDED", "static int RAINED",
+        "static int RINGS", "static int RIGHT", "static int WRONG", "static int WITHDRAWN"
+    };
+
+    /** What rules 2 to 6 and 10 to 13 leave out, as far as a word shows it. */
+    private static final String[] LEFT_OUT = {
+        "\\bimport\\b", "\\bpackage\\b", "->", "::", "\\bsynchronized\\b", "\\bassert\\b", "\\bfinally\\b", "\\bcatch\\b",
+        "\\bFloat\\b", "\\bDouble\\b", "\\bLong\\b", "\\bSystem\\b", "\\bObject\\b", "Exact\\b", "\\bhashCode\\b", "\\btoString\\b",
+        "\\binstanceof\\b", "\\bvar\\b", "\\?\\?", "\"\\s*\\+", "\\+\\s*\"", "[^\\x00-\\x7f]", "static\\s*\\{",
+        "static final (float|double|String\\[|float\\[)", "static (?!final|int |boolean |float |class)"
+    };
+
+    private static String sorted(Class<?>[] exceptions) {
+        StringBuilder text = new StringBuilder();
+        for (Class<?> exception : exceptions) {
+            text.append(' ').append(exception.getSimpleName());
+        }
+        return text.toString();
+    }
+
+    private static String parameters(Class<?>[] parameters) {
+        StringBuilder text = new StringBuilder("(");
+        for (Class<?> parameter : parameters) {
+            text.append(text.length() > 1 ? "," : "").append(parameter.getSimpleName());
+        }
+        return text.append(')').toString();
+    }
+
+    private static Set<String> face() {
+        Set<String> found = new TreeSet<>();
+        for (Constructor<?> one : FlumeRegistry.class.getDeclaredConstructors()) {
+            found.add("FlumeRegistry" + parameters(one.getParameterTypes()) + sorted(one.getExceptionTypes()));
+        }
+        for (Method one : FlumeRegistry.class.getDeclaredMethods()) {
+            if (!Modifier.isPrivate(one.getModifiers())) {
+                String kind = Modifier.isPublic(one.getModifiers()) ? "" : "not public ";
+                found.add(kind + one.getReturnType() + " " + one.getName() + parameters(one.getParameterTypes()) + sorted(one.getExceptionTypes()));
+            }
+        }
+        for (Field one : FlumeRegistry.class.getDeclaredFields()) {
+            if (!Modifier.isPrivate(one.getModifiers())) {
+                String kind = Modifier.isPublic(one.getModifiers()) ? "" : "not public ";
+                found.add(kind + (Modifier.isStatic(one.getModifiers()) ? "static " : "") + one.getType() + " " + one.getName());
+            }
+        }
+        return found;
+    }
+
+    private static int namesakes() {
+        int count = 0;
+        Set<String> open = new TreeSet<>();
+        for (Method one : FlumeRegistry.class.getDeclaredMethods()) {
+            if (Modifier.isPublic(one.getModifiers())) {
+                open.add(one.getName());
+            }
+        }
+        for (Class<?> inside : FlumeRegistry.class.getDeclaredClasses()) {
+            for (Method one : inside.getDeclaredMethods()) {
+                if (open.contains(one.getName())) {
+                    System.out.println(inside.getSimpleName() + " has a method with the public name " + one.getName());
+                    count++;
+                }
+            }
+        }
+        for (Method one : FlumeRegistry.class.getDeclaredMethods()) {
+            if (Modifier.isPrivate(one.getModifiers()) && open.contains(one.getName())) {
+                System.out.println("a private method has the public name " + one.getName());
+                count++;
+            }
+        }
+        return count;
+    }
+
+    private static int leftOut() throws IOException {
+        int count = 0;
+        String[] lines = Files.readString(Path.of("src/main/java/FlumeRegistry.java")).split("\n");
+        for (int at = 0; at < lines.length; at++) {
+            String line = lines[at].replaceAll("//.*|^\\s*/\\*\\*.*", "").replace("\"+-*/(),.\"", "");
+            for (String word : LEFT_OUT) {
+                Matcher matcher = Pattern.compile(word).matcher(line);
+                if (matcher.find()) {
+                    System.out.println("line " + (at + 1) + " has " + matcher.group());
+                    count++;
+                }
+            }
+        }
+        return count;
+    }
+
+    public static void main(String[] args) throws IOException {
+        Set<String> due = new TreeSet<>(Set.of(FACE));
+        Set<String> found = face();
+        int wrong = namesakes() + leftOut();
+        if (!found.equals(due)) {
+            wrong++;
+            Set<String> more = new TreeSet<>(found);
+            more.removeAll(due);
+            due.removeAll(found);
+            System.out.println("the face lacks " + due + ", and has " + more);
+        }
+        int modifiers = FlumeRegistry.class.getModifiers();
+        if (!Modifier.isPublic(modifiers) || !Modifier.isFinal(modifiers)) {
+            wrong++;
+            System.out.println("the class is not public and final");
+        }
+        if (FlumeRegistry.class.getDeclaredClasses().length > 12) {
+            wrong++;
+            System.out.println("there are too many classes");
+        }
+        System.out.println(wrong == 0 ? "the face is as due" : wrong + " things are not as due");
+        if (wrong != 0) {
+            System.exit(1);
+        }
+    }
+}
