@@ -26,8 +26,7 @@ public final class FlumeRegistry {
 
     private final Draft draft = new Draft();
     private final Reader reader = new Reader();
-    private final Reckoner reckoner = new Reckoner();
-    private final Shelf shelf = new Shelf(reckoner);
+    private final Shelf shelf = new Shelf();
     private final Run[] runs = new Run[MOST_RUNS];
     private final Run trial = new Run();
     private final Dam[] dams = new Dam[DAMS];
@@ -420,11 +419,12 @@ public final class FlumeRegistry {
         float asked = 0f;
         if (dam.hasRule) {
             boolean stands = isRun(dam.run) && reasonAgainst(dam.run) == STANDS;
-            reckoner.names[LEVEL_SLOT] = dam.level;
-            reckoner.names[INFLOW_SLOT] = inflow;
-            reckoner.names[PEAK_SLOT] = stands ? runs[dam.run].peak : 0f;
-            reckoner.names[HOUR_SLOT] = (float) now;
-            asked = reckoner.workOut(dam.formula);
+            float[] names = shelf.reckoner.names;
+            names[LEVEL_SLOT] = dam.level;
+            names[INFLOW_SLOT] = inflow;
+            names[PEAK_SLOT] = stands ? runs[dam.run].peak : 0f;
+            names[HOUR_SLOT] = (float) now;
+            asked = shelf.reckoner.workOut(dam.formula);
         }
         dam.letThrough(now, inflow, asked);
     }
@@ -859,14 +859,13 @@ public final class FlumeRegistry {
 
     /** All versions and rains, and the outputs that come of them. */
     private static final class Shelf {
-        private final Reckoner reckoner;
+        final Reckoner reckoner = new Reckoner();
         private final Version[] versions = new Version[MOST_VERSIONS];
         private final int[] newest = new int[MODELS];
         private final int[][] rains = new int[GAUGES][HOURS];
         private int count = 0;
 
-        Shelf(Reckoner reckoner) {
-            this.reckoner = reckoner;
+        Shelf() {
             for (int at = 0; at < versions.length; at++) {
                 versions[at] = new Version();
             }

@@ -228,6 +228,9 @@ public final class FlumeRegistryPromises {
         x.type('2');
         same("fault then", x.fault(false), NONE);
         same("the text stays", x.wipe(), 3);
+        same("fault of x((", write(x, "x((").fault(false), 3);
+        same("fault behind a text that was too short", write(x, "1").fault(false), NONE);
+        same("fault of 1,", write(x, "1,").fault(false), 1);
     }
 
     private static void faultsOfNumbers() {
@@ -391,6 +394,14 @@ public final class FlumeRegistryPromises {
         same("the next", publish(x, 1, "2"), 3);
         same("a ring no more", publish(x, 0, "m2"), 5);
         same("pin", x.pin(5, 2), 4);
+        FlumeRegistry y = new FlumeRegistry();
+        publish(y, 1, "1");
+        publish(y, 0, "m1");
+        fails("a ring of two, the lower one above", STATE, () -> publish(y, 1, "m0"));
+        publish(y, 2, "m0");
+        fails("a ring of three, the lowest one between", STATE, () -> publish(y, 1, "m2"));
+        y.retire(2);
+        fails("model 0 rests on it", STATE, () -> y.retire(1));
     }
 
     private static void mostVersions() {
@@ -578,6 +589,8 @@ public final class FlumeRegistryPromises {
         gives("t(-2.99)", -2f);
         gives("a(-2.5)", 2.5f);
         gives("a(2.5)", 2.5f);
+        gives("a(0.5)", 0.5f);
+        gives("a(-0.5)", 0.5f);
         gives("h", 3f);
         gives("x(n(1,2)+3,4*5)-i(1-1,2,a(-7))", 13f);
         gives("-x(1,2)", -2f);
@@ -874,6 +887,16 @@ public final class FlumeRegistryPromises {
         rule(x, 0, "r+1");
         x.pass(1);
         bits("no run", x.below(0, 6), 1f);
+        publish(x, 0, "0.5");
+        rule(x, 0, "f/4+l/100");
+        float level = Float.intBitsToFloat(x.level(0));
+        x.pass(1);
+        bits("little is asked", x.below(0, 7), 0.5f / 4f + level / 100f);
+        bits("little flows in", x.level(0), level + 0.5f - (0.5f / 4f + level / 100f));
+        x.retire(0);
+        rule(x, 0, "h/100");
+        x.pass(1);
+        bits("the hour, without a version", x.below(0, 8), 8f / 100f);
     }
 
     private static void goesBy() {
@@ -1240,6 +1263,13 @@ public final class FlumeRegistryPromises {
         x.sound(0, 3);
         x.pass(1);
         same("wrong saves none", x.saved(0), 230);
+        x.valley(0, 30, 10, 2);
+        x.rain(0, 24, 50);
+        x.run(0, 2);
+        x.sound(0, 4);
+        x.pass(2);
+        same("right", x.siren(4 + 1), FlumeRegistry.RIGHT);
+        same("one hour is too short, late too", x.saved(0), 230);
         same("another valley", x.saved(1), 0);
     }
 
