@@ -1,69 +1,5 @@
 /** For each promise of the document: ordinary inputs, the edges that it names, and wrong inputs. */
-public final class FlumeRegistryPromises {
-    private static final String INDEX = "IndexOutOfBoundsException";
-    private static final String ARGUMENT = "IllegalArgumentException";
-    private static final String STATE = "IllegalStateException";
-    private static final int NONE = FlumeRegistry.NONE;
-    private static int wrong = 0;
-    private static String promise = "";
-
-    private interface Call {
-        void make();
-    }
-
-    private static void same(String what, long got, long want) {
-        if (got != want) {
-            wrong++;
-            System.out.println(promise + ": " + what + " is " + got + ", due is " + want);
-        }
-    }
-
-    private static void bits(String what, int got, float want) {
-        if (got != Float.floatToIntBits(want)) {
-            wrong++;
-            System.out.println(promise + ": " + what + " is " + Float.intBitsToFloat(got) + ", due is " + want);
-        }
-    }
-
-    private static void fails(String what, String want, Call call) {
-        String got = "nothing";
-        try {
-            call.make();
-        } catch (RuntimeException e) {
-            got = e.getClass().getSimpleName();
-        }
-        if (!got.equals(want)) {
-            wrong++;
-            System.out.println(promise + ": " + what + " throws " + got + ", due is " + want);
-        }
-    }
-
-    private static FlumeRegistry write(FlumeRegistry x, String text) {
-        x.wipe();
-        for (int at = 0; at < text.length(); at++) {
-            x.type(text.charAt(at));
-        }
-        return x;
-    }
-
-    private static int publish(FlumeRegistry x, int model, String text) {
-        return write(x, text).publish(model);
-    }
-
-    private static void rule(FlumeRegistry x, int dam, String text) {
-        write(x, text).rule(dam);
-    }
-
-    private static int fault(String text, boolean isRule) {
-        return write(new FlumeRegistry(), text).fault(isRule);
-    }
-
-    /** What a text without names is worked out to. */
-    private static void gives(String text, float want) {
-        FlumeRegistry x = new FlumeRegistry();
-        bits(text, x.out(publish(x, 0, text), 3), want);
-    }
-
+public final class FlumeRegistryPromises extends Checks {
     public static void main(String[] args) {
         newObject();
         types();
@@ -104,14 +40,11 @@ public final class FlumeRegistryPromises {
         saves();
         alarms();
         passes();
-        System.out.println(wrong == 0 ? "all promises are kept" : wrong + " answers are not as due");
-        if (wrong != 0) {
-            System.exit(1);
-        }
+        end("all promises are kept");
     }
 
     private static void newObject() {
-        promise = "1 new";
+        sentence("1 new");
         FlumeRegistry x = new FlumeRegistry();
         for (int model = 0; model < 6; model++) {
             same("latest", x.latest(model), NONE);
@@ -143,7 +76,7 @@ public final class FlumeRegistryPromises {
     }
 
     private static void types() {
-        promise = "2 type";
+        sentence("2 type");
         String letters = "abcdefghijklmnopqrstuvwxyz0123456789+-*/(),.";
         for (int letter = 0; letter < 65536; letter++) {
             char typed = (char) letter;
@@ -166,7 +99,7 @@ public final class FlumeRegistryPromises {
     }
 
     private static void wipes() {
-        promise = "3 wipe";
+        sentence("3 wipe");
         FlumeRegistry x = new FlumeRegistry();
         same("wipe", x.wipe(), 0);
         write(x, "1+");
@@ -184,7 +117,7 @@ public final class FlumeRegistryPromises {
     }
 
     private static void faults() {
-        promise = "4 fault";
+        sentence("4 fault");
         sameFault("", 0);
         sameFault("1", NONE);
         sameFault("1+", 2);
@@ -234,7 +167,7 @@ public final class FlumeRegistryPromises {
     }
 
     private static void faultsOfNumbers() {
-        promise = "4 fault of numbers";
+        sentence("4 fault of numbers");
         sameFault("0", NONE);
         sameFault("000", NONE);
         sameFault("999", NONE);
@@ -257,7 +190,7 @@ public final class FlumeRegistryPromises {
     }
 
     private static void faultsOfNames() {
-        promise = "4 fault of names";
+        sentence("4 fault of names");
         for (char name = 'a'; name <= 'z'; name++) {
             String text = String.valueOf(name);
             boolean isFunction = "xnita".indexOf(name) >= 0;
@@ -283,7 +216,7 @@ public final class FlumeRegistryPromises {
     }
 
     private static void faultsOfFunctions() {
-        promise = "4 fault of functions";
+        sentence("4 fault of functions");
         sameFault("x(1,2)", NONE);
         sameFault("n(1,2)", NONE);
         sameFault("i(1,2,3)", NONE);
@@ -313,7 +246,7 @@ public final class FlumeRegistryPromises {
     }
 
     private static void publishes() {
-        promise = "5 publish";
+        sentence("5 publish");
         FlumeRegistry x = new FlumeRegistry();
         same("publish", publish(x, 3, "1"), 0);
         same("publish", x.publish(5), 1);
@@ -335,7 +268,7 @@ public final class FlumeRegistryPromises {
     }
 
     private static void bindsAnew() {
-        promise = "5 publish binds anew";
+        sentence("5 publish binds anew");
         FlumeRegistry x = new FlumeRegistry();
         publish(x, 5, "g0");
         publish(x, 4, "m5+1");
@@ -375,7 +308,7 @@ public final class FlumeRegistryPromises {
     }
 
     private static void refusesToPublish() {
-        promise = "5 publish refuses";
+        sentence("5 publish refuses");
         FlumeRegistry x = new FlumeRegistry();
         fails("itself", STATE, () -> publish(x, 0, "m0"));
         fails("none", STATE, () -> publish(x, 0, "m1"));
@@ -405,7 +338,7 @@ public final class FlumeRegistryPromises {
     }
 
     private static void mostVersions() {
-        promise = "5 publish, 60 versions";
+        sentence("5 publish, 60 versions");
         FlumeRegistry x = new FlumeRegistry();
         publish(x, 0, "1");
         publish(x, 1, "m0");
@@ -433,7 +366,7 @@ public final class FlumeRegistryPromises {
     }
 
     private static void retires() {
-        promise = "6 retire";
+        sentence("6 retire");
         FlumeRegistry x = new FlumeRegistry();
         fails("-1", INDEX, () -> x.retire(-1));
         fails("6", INDEX, () -> x.retire(6));
@@ -459,7 +392,7 @@ public final class FlumeRegistryPromises {
     }
 
     private static void latests() {
-        promise = "7 latest";
+        sentence("7 latest");
         FlumeRegistry x = new FlumeRegistry();
         fails("-1", INDEX, () -> x.latest(-1));
         fails("6", INDEX, () -> x.latest(6));
@@ -473,7 +406,7 @@ public final class FlumeRegistryPromises {
     }
 
     private static void pins() {
-        promise = "8 pin";
+        sentence("8 pin");
         FlumeRegistry x = new FlumeRegistry();
         publish(x, 0, "1");
         publish(x, 5, "2");
@@ -492,7 +425,7 @@ public final class FlumeRegistryPromises {
     }
 
     private static void rains() {
-        promise = "9 rain";
+        sentence("9 rain");
         FlumeRegistry x = new FlumeRegistry();
         same("first", x.rain(0, 0, 500), 0);
         same("second", x.rain(0, 0, 0), 500);
@@ -517,7 +450,7 @@ public final class FlumeRegistryPromises {
     }
 
     private static void outs() {
-        promise = "10 out";
+        sentence("10 out");
         FlumeRegistry x = new FlumeRegistry();
         publish(x, 0, "p+g0");
         publish(x, 1, "m0*10+q0");
@@ -551,7 +484,7 @@ public final class FlumeRegistryPromises {
     }
 
     private static void workings() {
-        promise = "10 out of texts";
+        sentence("10 out of texts");
         gives("0.1", 0.1f);
         gives("0.10", 0.1f);
         gives("0.05", 0.05f);
@@ -599,7 +532,7 @@ public final class FlumeRegistryPromises {
     }
 
     private static void limits() {
-        promise = "10 out at the limits";
+        sentence("10 out at the limits");
         gives("999*999*999*999", 1000000000f);
         gives("-999*999*999*999", -1000000000f);
         gives("999*999*999*999-1-999*999*999*999", 0f);
@@ -642,7 +575,7 @@ public final class FlumeRegistryPromises {
     }
 
     private static void outsAnew() {
-        promise = "11 outAnew";
+        sentence("11 outAnew");
         FlumeRegistry x = new FlumeRegistry();
         publish(x, 0, "p/2+g1");
         publish(x, 1, "q0+m0");
@@ -666,7 +599,7 @@ public final class FlumeRegistryPromises {
     }
 
     private static void runs() {
-        promise = "12 run";
+        sentence("12 run");
         FlumeRegistry x = new FlumeRegistry();
         fails("model -1", INDEX, () -> x.run(-1, 0));
         fails("model 6", INDEX, () -> x.run(6, 1));
@@ -692,7 +625,7 @@ public final class FlumeRegistryPromises {
     }
 
     private static void mostRuns() {
-        promise = "12 run, 40 of them";
+        sentence("12 run, 40 of them");
         FlumeRegistry x = new FlumeRegistry();
         publish(x, 0, "1");
         for (int number = 0; number < 40; number++) {
@@ -700,12 +633,12 @@ public final class FlumeRegistryPromises {
         }
         fails("the 41st", STATE, () -> x.run(0, 1));
         fails("the 41st for no hours", ARGUMENT, () -> x.run(0, 0));
-        same("why", x.why(39), FlumeRegistry.STANDS);
+        same("why", x.why(39), STANDS);
         fails("why", INDEX, () -> x.why(40));
     }
 
     private static void whys() {
-        promise = "13 why";
+        sentence("13 why");
         FlumeRegistry x = new FlumeRegistry();
         fails("none", INDEX, () -> x.why(0));
         publish(x, 0, "g0");
@@ -716,33 +649,33 @@ public final class FlumeRegistryPromises {
         x.run(2, 5);
         fails("-1", INDEX, () -> x.why(-1));
         fails("3", INDEX, () -> x.why(3));
-        same("stands", x.why(0), FlumeRegistry.STANDS);
+        same("stands", x.why(0), STANDS);
         x.rain(0, 3, 1);
-        same("rained", x.why(0), FlumeRegistry.RAINED);
-        same("rained below", x.why(1), FlumeRegistry.RAINED);
-        same("another gauge", x.why(2), FlumeRegistry.STANDS);
+        same("rained", x.why(0), RAINED);
+        same("rained below", x.why(1), RAINED);
+        same("another gauge", x.why(2), STANDS);
         publish(x, 0, "g0");
-        same("mended goes first", x.why(0), FlumeRegistry.MENDED);
-        same("mended below", x.why(1), FlumeRegistry.MENDED);
-        same("not mended", x.why(2), FlumeRegistry.STANDS);
+        same("mended goes first", x.why(0), MENDED);
+        same("mended below", x.why(1), MENDED);
+        same("not mended", x.why(2), STANDS);
         x.retire(2);
-        same("retired", x.why(2), FlumeRegistry.MENDED);
+        same("retired", x.why(2), MENDED);
         publish(x, 2, "g2");
-        same("still not the latest", x.why(2), FlumeRegistry.MENDED);
+        same("still not the latest", x.why(2), MENDED);
         x.run(2, 5);
-        same("stands", x.why(3), FlumeRegistry.STANDS);
+        same("stands", x.why(3), STANDS);
         publish(x, 1, "g1");
-        same("one beside it", x.why(3), FlumeRegistry.STANDS);
+        same("one beside it", x.why(3), STANDS);
         x.pass(24);
-        same("long past", x.why(3), FlumeRegistry.STANDS);
+        same("long past", x.why(3), STANDS);
         x.rain(2, 6, 1);
-        same("a rain behind its last hour", x.why(3), FlumeRegistry.STANDS);
+        same("a rain behind its last hour", x.why(3), STANDS);
         x.rain(2, 5, 1);
-        same("a rain in its last hour", x.why(3), FlumeRegistry.RAINED);
+        same("a rain in its last hour", x.why(3), RAINED);
     }
 
     private static void whysOfRain() {
-        promise = "13 why of rains";
+        sentence("13 why of rains");
         FlumeRegistry x = new FlumeRegistry();
         publish(x, 0, "0*g1");
         publish(x, 1, "q0+g0");
@@ -750,25 +683,25 @@ public final class FlumeRegistryPromises {
         x.pass(10);
         x.run(2, 5);
         x.rain(2, 12, 4);
-        same("a gauge that is not named", x.why(0), FlumeRegistry.STANDS);
+        same("a gauge that is not named", x.why(0), STANDS);
         x.rain(1, 16, 4);
-        same("behind its last hour", x.why(0), FlumeRegistry.STANDS);
+        same("behind its last hour", x.why(0), STANDS);
         x.rain(1, 15, 0);
-        same("the same rain", x.why(0), FlumeRegistry.STANDS);
+        same("the same rain", x.why(0), STANDS);
         x.rain(1, 0, 3);
-        same("long before, of what is pinned", x.why(0), FlumeRegistry.RAINED);
+        same("long before, of what is pinned", x.why(0), RAINED);
         x.rain(1, 0, 0);
-        same("told back", x.why(0), FlumeRegistry.RAINED);
+        same("told back", x.why(0), RAINED);
         x.run(2, 5);
-        same("the next one stands", x.why(1), FlumeRegistry.STANDS);
+        same("the next one stands", x.why(1), STANDS);
         fails("a rain that is none", ARGUMENT, () -> x.rain(0, 12, 501));
-        same("still stands", x.why(1), FlumeRegistry.STANDS);
+        same("still stands", x.why(1), STANDS);
         x.rain(0, 15, 1);
-        same("the other gauge, in its last hour", x.why(1), FlumeRegistry.RAINED);
+        same("the other gauge, in its last hour", x.why(1), RAINED);
     }
 
     private static void peaks() {
-        promise = "14 peak, 15 peakHour";
+        sentence("14 peak, 15 peakHour");
         FlumeRegistry x = new FlumeRegistry();
         fails("peak", INDEX, () -> x.peak(0));
         fails("peakHour", INDEX, () -> x.peakHour(0));
@@ -802,7 +735,7 @@ public final class FlumeRegistryPromises {
     }
 
     private static void peaksAnew() {
-        promise = "16 peakAnew";
+        sentence("16 peakAnew");
         FlumeRegistry x = new FlumeRegistry();
         fails("none", INDEX, () -> x.peakAnew(0));
         publish(x, 0, "g0");
@@ -822,13 +755,13 @@ public final class FlumeRegistryPromises {
         bits("as it was found", x.peak(0), 0f);
         x.pass(24);
         bits("the same hours", x.peakAnew(0), 40f);
-        same("why", x.why(0), FlumeRegistry.MENDED);
+        same("why", x.why(0), MENDED);
         fails("-1", INDEX, () -> x.peakAnew(-1));
         fails("1", INDEX, () -> x.peakAnew(1));
     }
 
     private static void builds() {
-        promise = "17 build";
+        sentence("17 build");
         FlumeRegistry x = new FlumeRegistry();
         fails("dam -1", INDEX, () -> x.build(-1, 0, 0));
         fails("dam 3", INDEX, () -> x.build(3, 0, 1));
@@ -851,7 +784,7 @@ public final class FlumeRegistryPromises {
     }
 
     private static void rules() {
-        promise = "18 rule";
+        sentence("18 rule");
         FlumeRegistry x = new FlumeRegistry();
         fails("dam -1", INDEX, () -> x.rule(-1));
         fails("dam 3", INDEX, () -> write(x, "g0").rule(3));
@@ -900,7 +833,7 @@ public final class FlumeRegistryPromises {
     }
 
     private static void goesBy() {
-        promise = "19 goBy";
+        sentence("19 goBy");
         FlumeRegistry x = new FlumeRegistry();
         publish(x, 0, "10");
         publish(x, 1, "5+g0");
@@ -940,7 +873,7 @@ public final class FlumeRegistryPromises {
     }
 
     private static void levels() {
-        promise = "20 level";
+        sentence("20 level");
         FlumeRegistry x = new FlumeRegistry();
         fails("-1", INDEX, () -> x.level(-1));
         fails("3", INDEX, () -> x.level(3));
@@ -980,7 +913,7 @@ public final class FlumeRegistryPromises {
     }
 
     private static void belows() {
-        promise = "21 below";
+        sentence("21 below");
         FlumeRegistry x = new FlumeRegistry();
         fails("dam -1", INDEX, () -> x.below(-1, 0));
         fails("dam 3", INDEX, () -> x.below(3, -1));
@@ -1016,7 +949,7 @@ public final class FlumeRegistryPromises {
     }
 
     private static void valleys() {
-        promise = "22 valley";
+        sentence("22 valley");
         FlumeRegistry x = new FlumeRegistry();
         fails("dam -1", INDEX, () -> x.valley(-1, -1, 1, 0));
         fails("dam 3", INDEX, () -> x.valley(3, 1, 1, 0));
@@ -1041,7 +974,7 @@ public final class FlumeRegistryPromises {
         x.valley(0, 60, 9, 0);
         same("those who walk do so already", x.walkers(0), 100);
         x.pass(3);
-        same("the danger of now", x.siren(0), FlumeRegistry.WRONG);
+        same("the danger of now", x.siren(0), WRONG);
         bits("trust", x.trust(0), 0.75f);
         x.valley(0, 50, 8, 0);
         bits("the trust stays", x.trust(0), 0.75f);
@@ -1061,7 +994,7 @@ public final class FlumeRegistryPromises {
     }
 
     private static void sounds() {
-        promise = "23 sound";
+        sentence("23 sound");
         FlumeRegistry x = valleyOf(100, 0);
         publish(x, 1, "g0");
         x.rain(0, 2, 10);
@@ -1081,16 +1014,16 @@ public final class FlumeRegistryPromises {
         fails("one rings", STATE, () -> x.sound(0, 0));
         same("at another dam", x.sound(1, 1), 1);
         x.pass(3);
-        same("judged", x.siren(0), FlumeRegistry.RIGHT);
+        same("judged", x.siren(0), RIGHT);
         same("sound again, by a run long past", x.sound(0, 0), 2);
         x.pass(1);
-        same("judged", x.siren(2), FlumeRegistry.WRONG);
+        same("judged", x.siren(2), WRONG);
         x.run(0, 5);
         fails("below the danger", STATE, () -> x.sound(0, 2));
         x.rain(0, 9, 30);
         fails("rained, and told anew", STATE, () -> x.sound(0, 2));
         x.run(0, 5);
-        same("why", x.why(3), FlumeRegistry.STANDS);
+        same("why", x.why(3), STANDS);
         x.rain(0, 0, 1);
         fails("rained", STATE, () -> x.sound(0, 3));
         x.run(0, 5);
@@ -1101,7 +1034,7 @@ public final class FlumeRegistryPromises {
     }
 
     private static void mostSirens() {
-        promise = "23 sound, 60 sirens";
+        sentence("23 sound, 60 sirens");
         FlumeRegistry x = new FlumeRegistry();
         publish(x, 0, "10");
         x.run(0, 1);
@@ -1116,57 +1049,57 @@ public final class FlumeRegistryPromises {
             }
         }
         fails("the 61st", STATE, () -> x.sound(0, 0));
-        same("the last", x.siren(59), FlumeRegistry.RIGHT);
+        same("the last", x.siren(59), RIGHT);
     }
 
     private static void sirens() {
-        promise = "24 siren";
+        sentence("24 siren");
         FlumeRegistry x = valleyOf(100, 0);
         fails("none", INDEX, () -> x.siren(0));
         x.rain(0, 3, 10);
         x.run(0, 5);
         x.sound(0, 0);
-        same("rings", x.siren(0), FlumeRegistry.RINGS);
+        same("rings", x.siren(0), RINGS);
         x.pass(3);
-        same("rings", x.siren(0), FlumeRegistry.RINGS);
+        same("rings", x.siren(0), RINGS);
         x.pass(1);
-        same("right, as it is not less", x.siren(0), FlumeRegistry.RIGHT);
+        same("right, as it is not less", x.siren(0), RIGHT);
         x.rain(0, 0, 1);
         x.pass(3);
-        same("right for ever", x.siren(0), FlumeRegistry.RIGHT);
+        same("right for ever", x.siren(0), RIGHT);
         x.rain(0, 9, 40);
         x.run(0, 3);
         x.sound(0, 1);
         x.pass(2);
-        same("rings", x.siren(1), FlumeRegistry.RINGS);
+        same("rings", x.siren(1), RINGS);
         rule(x, 0, "0");
         x.pass(1);
-        same("rings, as this is hour 9 of 10", x.siren(1), FlumeRegistry.RINGS);
+        same("rings, as this is hour 9 of 10", x.siren(1), RINGS);
         x.pass(1);
-        same("wrong in the last hour", x.siren(1), FlumeRegistry.WRONG);
+        same("wrong in the last hour", x.siren(1), WRONG);
         x.rain(0, 13, 40);
         x.run(0, 3);
         x.sound(0, 2);
         x.rain(0, 15, 1);
         x.pass(1);
-        same("a rain behind it", x.siren(2), FlumeRegistry.RINGS);
+        same("a rain behind it", x.siren(2), RINGS);
         x.rain(0, 13, 41);
-        same("not judged yet", x.siren(2), FlumeRegistry.RINGS);
+        same("not judged yet", x.siren(2), RINGS);
         rule(x, 0, "l");
         x.pass(1);
         bits("a flood", x.below(0, 12), 40f);
-        same("withdrawn, though there is a flood", x.siren(2), FlumeRegistry.WITHDRAWN);
+        same("withdrawn, though there is a flood", x.siren(2), WITHDRAWN);
         x.run(0, 4);
         x.sound(0, 3);
         x.retire(0);
         x.pass(1);
-        same("withdrawn, as it is mended", x.siren(3), FlumeRegistry.WITHDRAWN);
+        same("withdrawn, as it is mended", x.siren(3), WITHDRAWN);
         fails("-1", INDEX, () -> x.siren(-1));
         fails("4", INDEX, () -> x.siren(4));
     }
 
     private static void walkersOfSirens() {
-        promise = "25 walkers";
+        sentence("25 walkers");
         FlumeRegistry x = valleyOf(999, 0);
         fails("none", INDEX, () -> x.walkers(0));
         x.rain(0, 1, 50);
@@ -1190,7 +1123,7 @@ public final class FlumeRegistryPromises {
     }
 
     private static void trusts() {
-        promise = "26 trust";
+        sentence("26 trust");
         FlumeRegistry x = valleyOf(100, 0);
         bits("first", x.trust(0), 1f);
         bits("no valley", x.trust(1), 1f);
@@ -1231,7 +1164,7 @@ public final class FlumeRegistryPromises {
     }
 
     private static void saves() {
-        promise = "27 saved";
+        sentence("27 saved");
         FlumeRegistry x = valleyOf(100, 2);
         same("first", x.saved(0), 0);
         same("not built", x.saved(1), 0);
@@ -1244,7 +1177,7 @@ public final class FlumeRegistryPromises {
         x.sound(0, 0);
         x.pass(2);
         same("one hour is too short", x.saved(0), 0);
-        same("though it was right", x.siren(0), FlumeRegistry.RIGHT);
+        same("though it was right", x.siren(0), RIGHT);
         x.run(0, 2);
         x.sound(0, 1);
         x.pass(3);
@@ -1268,13 +1201,13 @@ public final class FlumeRegistryPromises {
         x.run(0, 2);
         x.sound(0, 4);
         x.pass(2);
-        same("right", x.siren(4 + 1), FlumeRegistry.RIGHT);
+        same("right", x.siren(4 + 1), RIGHT);
         same("one hour is too short, late too", x.saved(0), 230);
         same("another valley", x.saved(1), 0);
     }
 
     private static void alarms() {
-        promise = "28 alarm";
+        sentence("28 alarm");
         FlumeRegistry x = new FlumeRegistry();
         publish(x, 0, "g0");
         publish(x, 3, "m0*2");
@@ -1318,7 +1251,7 @@ public final class FlumeRegistryPromises {
     }
 
     private static void passes() {
-        promise = "29 pass";
+        sentence("29 pass");
         FlumeRegistry x = new FlumeRegistry();
         fails("0", ARGUMENT, () -> x.pass(0));
         fails("-1", ARGUMENT, () -> x.pass(-1));
@@ -1343,8 +1276,8 @@ public final class FlumeRegistryPromises {
         y.sound(2, 1);
         y.sound(0, 0);
         same("pass", y.pass(6), 6);
-        same("judged hour by hour", y.siren(0), FlumeRegistry.WRONG);
-        same("judged hour by hour", y.siren(1), FlumeRegistry.RIGHT);
+        same("judged hour by hour", y.siren(0), WRONG);
+        same("judged hour by hour", y.siren(1), RIGHT);
         bits("the dam with a rule", y.below(0, 2), 12f);
         bits("the dam without one", y.below(2, 3), 0f);
         bits("the dam without one", y.level(2), 46f);
