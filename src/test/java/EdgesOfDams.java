@@ -174,6 +174,14 @@ public final class EdgesOfDams extends Checks {
         publish(x, 0, "0.01");
         x.pass(1);
         bits("a little above 0", x.below(0, 6), 1.01f);
+        FlumeRegistry y = dam("i(h,p/999,1)", 100);
+        rule(y, 0, "f");
+        y.pass(5);
+        float inflow = 1f;
+        for (int hour = 0; hour < 5; hour++) {
+            bits("hardly above 0", y.below(0, hour), inflow);
+            inflow = inflow / 999f;
+        }
     }
 
     private static void inflowOfNone() {
@@ -318,6 +326,15 @@ public final class EdgesOfDams extends Checks {
         for (int hour : new int[] {0, 1, 24, 25, 199}) {
             bits("below in " + hour, x.below(0, hour), hour);
         }
+        FlumeRegistry y = dam("500", 100000);
+        rule(y, 0, "h");
+        y.pass(4);
+        y.out(0, 200);
+        y.pass(1);
+        bits("below in 4, when outputs are kept up to 200", y.below(0, 4), 4f);
+        y.retire(0);
+        y.pass(2);
+        bits("below in 6, without a latest version", y.below(0, 6), 6f);
     }
 
     private static void noRun() {
@@ -461,16 +478,17 @@ public final class EdgesOfDams extends Checks {
         sentence("flows is what is asked, but 0f if that is below 0");
         FlumeRegistry x = dam("10", 100);
         int hour = 0;
-        float level = 0f;
-        for (String text : new String[] {"-1", "-0.01", "0-999*999*999*999", "0", "-0", "0.01", "l-999"}) {
+        for (String text : new String[] {"-1", "-0.01", "-0.01/9", "0-999*999*999*999", "0", "-0", "l-999"}) {
             rule(x, 0, text);
             x.pass(1);
-            float flows = text.equals("0.01") ? 0.01f : 0f;
-            level = level + 10f - flows;
-            bits("below, with the rule " + text, x.below(0, hour), flows);
-            bits("level, with the rule " + text, x.level(0), level);
+            bits("below, with the rule " + text, x.below(0, hour), 0f);
             hour++;
+            bits("level, with the rule " + text, x.level(0), 10f * hour);
         }
+        rule(x, 0, "0.01/9");
+        x.pass(1);
+        bits("hardly above 0", x.below(0, hour), 0.01f / 9f);
+        bits("hardly above 0", x.level(0), 70f + 10f - 0.01f / 9f);
     }
 
     private static void askedAboveWhatThereIs() {

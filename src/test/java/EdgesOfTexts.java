@@ -391,7 +391,9 @@ public final class EdgesOfTexts extends Checks {
         gives("a(-1.5)", 1.5f);
         gives("a(1.5)", 1.5f);
         gives("a(0)", 0f);
+        gives("a(0.5)", 0.5f);
         gives("a(-0.01)", 0.01f);
+        gives("a(0.01/9)", 0.01f / 9f);
         gives("a(-" + BILLION + ")", MOST);
     }
 

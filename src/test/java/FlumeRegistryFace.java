@@ -131,10 +131,60 @@ public final class FlumeRegistryFace {
         return count;
     }
 
+    private static int complain(String what) {
+        System.out.println(what);
+        return 1;
+    }
+
+    /** Rules 3, 5 and 11, as far as they can be seen in the classes. */
+    private static int outOfRules(Class<?> one) {
+        int count = 0;
+        int fields = 0;
+        for (Field field : one.getDeclaredFields()) {
+            String of = one.getSimpleName() + "." + field.getName();
+            Class<?> type = field.getType();
+            boolean isStatic = Modifier.isStatic(field.getModifiers());
+            fields += isStatic ? 0 : 1;
+            if (isStatic && (!Modifier.isFinal(field.getModifiers()) || type != int.class)) {
+                count += complain(of + " is static, and no constant");
+            }
+            for (int dimension = 0; dimension < 2 && type.isArray(); dimension++) {
+                type = type.getComponentType();
+            }
+            boolean isOwn = type.getEnclosingClass() == FlumeRegistry.class;
+            if (!type.isPrimitive() && (!isOwn || field.getType().getName().startsWith("[["))) {
+                count += complain(of + " is of a type that is left out");
+            }
+        }
+        for (Method method : one.getDeclaredMethods()) {
+            if (method.getParameterCount() > 7) {
+                count += complain(method.getName() + " has too many parameters");
+            }
+        }
+        return count + (fields > 20 ? complain(one.getSimpleName() + " has too many fields") : 0);
+    }
+
+    /** Rule 11: methods stay short; one begins and ends at the same depth. */
+    private static int tooLong() throws IOException {
+        int count = 0;
+        int begin = 0;
+        String[] lines = Files.readString(Path.of("src/main/java/FlumeRegistry.java")).split("\n");
+        for (int at = 0; at < lines.length; at++) {
+            begin = lines[at].matches("( {4}| {8})[a-zA-Z].*\\(.*\\{") ? at : begin;
+            if (lines[at].matches("( {4}| {8})\\}") && at - begin > 60) {
+                count += lines[begin].contains(" class ") ? 0 : complain("line " + (begin + 1) + " begins a method that is too long");
+            }
+        }
+        return count;
+    }
+
     public static void main(String[] args) throws IOException {
         Set<String> due = new TreeSet<>(Set.of(FACE));
         Set<String> found = face();
-        int wrong = namesakes() + leftOut();
+        int wrong = namesakes() + leftOut() + tooLong() + outOfRules(FlumeRegistry.class);
+        for (Class<?> inside : FlumeRegistry.class.getDeclaredClasses()) {
+            wrong += outOfRules(inside);
+        }
         if (!found.equals(due)) {
             wrong++;
             Set<String> more = new TreeSet<>(found);
