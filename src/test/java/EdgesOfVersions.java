@@ -22,6 +22,7 @@ public final class EdgesOfVersions extends Checks {
         boundWithTheSameText();
         boundByTheHourBefore();
         oldPinsStay();
+        noRainsAtFirst();
         rainsAtTheEdges();
         outsAtTheEdges();
         keptOutputs();
@@ -485,6 +486,38 @@ public final class EdgesOfVersions extends Checks {
         bits("of the new one, with another rain", x.out(5, 6), 800f);
         same("found anew", x.outAnew(5, 6), x.out(5, 6));
         same("pin", x.pin(2, 1), 1);
+    }
+
+    private static void noRainsAtFirst() {
+        sentence("FlumeRegistry(): Creates a registry without versions, dams and rains; the text is empty");
+        for (int gauge = 0; gauge < 3; gauge++) {
+            FlumeRegistry x = new FlumeRegistry();
+            for (int hour = 0; hour <= 200; hour++) {
+                same("the rain of " + gauge + " in " + hour, x.rain(gauge, hour, 500), 0);
+            }
+            for (int hour = 0; hour <= 200; hour++) {
+                same("what was told of " + gauge + " in " + hour, x.rain(gauge, hour, 0), 500);
+            }
+            FlumeRegistry other = new FlumeRegistry();
+            for (int hour = 0; hour <= 200; hour++) {
+                same("the rain of another object", other.rain(gauge, hour, 0), 0);
+            }
+        }
+        FlumeRegistry x = new FlumeRegistry();
+        same("the text, as a model's text", x.fault(false), 0);
+        same("the text, as a rule", x.fault(true), 0);
+        same("its letters", x.wipe(), 0);
+        fails("a version", INDEX, () -> x.out(0, 0));
+        fails("a run", INDEX, () -> x.why(0));
+        fails("a siren", INDEX, () -> x.siren(0));
+        for (int dam = 0; dam < 3; dam++) {
+            int at = dam;
+            fails("a valley below a dam that is not built", STATE, () -> x.valley(at, 0, 1, 0));
+            x.build(dam, dam, 1);
+        }
+        for (int model = 0; model < 6; model++) {
+            same("a latest version", x.latest(model), NONE);
+        }
     }
 
     private static void rainsAtTheEdges() {
