@@ -8,6 +8,7 @@ abstract class Checks {
     static final int STANDS = FlumeRegistry.STANDS, MENDED = FlumeRegistry.MENDED, RAINED = FlumeRegistry.RAINED;
     static final int RINGS = FlumeRegistry.RINGS, RIGHT = FlumeRegistry.RIGHT;
     static final int WRONG = FlumeRegistry.WRONG, WITHDRAWN = FlumeRegistry.WITHDRAWN;
+    private static int made = 0;
     private static int wrong = 0;
     private static String sentence = "";
 
@@ -20,24 +21,32 @@ abstract class Checks {
         sentence = words;
     }
 
+    /** How many checks have been made. */
+    static int made() {
+        return made;
+    }
+
     private static void complain(String what, Object got, Object want) {
         wrong++;
         System.out.println(sentence + ": " + what + " is " + got + ", due is " + want);
     }
 
     static void same(String what, long got, long want) {
+        made++;
         if (got != want) {
             complain(what, got, want);
         }
     }
 
     static void same(String what, String got, String want) {
+        made++;
         if (!got.equals(want)) {
             complain(what, got, want);
         }
     }
 
     static void bits(String what, int got, float want) {
+        made++;
         if (got != Float.floatToRawIntBits(want)) {
             complain(what, Float.intBitsToFloat(got), want);
         }
@@ -54,6 +63,7 @@ abstract class Checks {
     }
 
     static void fails(String what, String want, Call call) {
+        made++;
         String got = thrown(call);
         if (!got.equals(want)) {
             complain("what " + what + " throws", got, want);

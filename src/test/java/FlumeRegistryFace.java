@@ -5,6 +5,7 @@ import java.lang.reflect.Method;
 import java.lang.reflect.Modifier;
 import java.nio.file.Files;
 import java.nio.file.Path;
+import java.util.List;
 import java.util.Set;
 import java.util.TreeSet;
 import java.util.regex.Matcher;
@@ -178,10 +179,28 @@ public final class FlumeRegistryFace {
         return count;
     }
 
+    /** The face stands in the source in the document's own lines and order. */
+    private static int outOfFace() throws IOException {
+        int count = 0;
+        int next = 0;
+        List<String> lines = Files.readAllLines(Path.of("src/main/java/FlumeRegistry.java"));
+        for (String line : Document.code()) {
+            boolean isBody = line.endsWith(");") || line.contains(") throws ");
+            String due = isBody ? line.substring(0, line.length() - 1) + " {" : line;
+            int at = next;
+            while (at < lines.size() && !lines.get(at).equals(due)) {
+                at++;
+            }
+            count += at == lines.size() ? complain("the face lacks, behind line " + next + ": " + due) : 0;
+            next = at < lines.size() ? at + 1 : next;
+        }
+        return count + (next == 0 ? complain("the document has no face") : 0);
+    }
+
     public static void main(String[] args) throws IOException {
         Set<String> due = new TreeSet<>(Set.of(FACE));
         Set<String> found = face();
-        int wrong = namesakes() + leftOut() + tooLong() + outOfRules(FlumeRegistry.class);
+        int wrong = namesakes() + leftOut() + tooLong() + outOfFace() + outOfRules(FlumeRegistry.class);
         for (Class<?> inside : FlumeRegistry.class.getDeclaredClasses()) {
             wrong += outOfRules(inside);
         }
