@@ -135,7 +135,7 @@ public final class ReadmeHolds extends Checks {
                     count++;
                 }
                 promise.clear();
-                // The constructor needs nothing, and is no call of this list.
+                // The constructor answers nothing, and is looked for by itself.
                 if (line.startsWith("## Promise ") && !line.startsWith("## Promise 1:")) {
                     promise.add(line);
                 }
@@ -145,6 +145,10 @@ public final class ReadmeHolds extends Checks {
         }
         sentence("README.md");
         same("how many calls it tells of", count, 28);
+        String maker = "`FlumeRegistry()`";
+        String words = Document.sentences().stream().filter(line -> line.startsWith(maker + ": ")).findFirst().orElse("none");
+        int at = lines.indexOf("**" + maker + "** " + words.substring(words.indexOf(':') + 2));
+        same("whether it tells of a new object", at >= 0 ? 1 : 0, 1);
     }
 
     /** The document's terms stand in README.md, sentence by sentence in their order. */
